@@ -213,8 +213,7 @@ public final class BoroughBeam {
     }
 
     public boolean pair(int a, boolean right, int b, boolean other) {
-        now.steps.mark(now.town);
-        return now.steps.keptIf(now.town.goPaired(a, right, b, other));
+        return now.walksPaired(a, right, b, other);
     }
 
     public boolean shovel(int place, int n) {
@@ -228,15 +227,7 @@ public final class BoroughBeam {
         if (!within(n, 1, MOST_HOURS) || now.town.hour + n > LAST_HOUR) {
             return NONE;
         }
-        int slipped = 0;
-        for (int i = 0; i < n; i++) {
-            now.steps.mark(now.town);
-            if (now.town.passHour()) {
-                slipped++;
-            }
-            now.steps.keptIf(true);
-        }
-        return slipped;
+        return now.waits(n);
     }
 
     public int played(int text) {
@@ -676,32 +667,40 @@ public final class BoroughBeam {
             return steps.keptIf(town.go(person, right));
         }
 
+        boolean walksPaired(int a, boolean right, int b, boolean other) {
+            steps.mark(town);
+            return steps.keptIf(town.goPaired(a, right, b, other));
+        }
+
         boolean shovels(int place, int n) {
             steps.mark(town);
             return steps.keptIf(town.clear(place, n));
         }
 
-        /** Hours pass as long as they can: whether all of them did. */
-        boolean waits(int hours) {
-            for (int i = 0; i < hours; i++) {
-                if (town.hour >= LAST_HOUR) {
-                    return false;
-                }
+        /** Those of the hours that can pass do: in how many of them it slips. */
+        int waits(int hours) {
+            int slipped = 0;
+            for (int i = 0; i < hours && town.hour < LAST_HOUR; i++) {
                 steps.mark(town);
-                town.passHour();
+                slipped += town.passHour() ? 1 : 0;
                 steps.keptIf(true);
             }
-            return true;
+            return slipped;
         }
 
+        /** Does a clause as by hand, laws being no deeds: whether it could be done whole. */
         boolean does(int clause, int first, int second) {
+            if (clause == WORD_HOUR) {
+                boolean whole = town.hour + first <= LAST_HOUR;
+                waits(first);
+                return whole;
+            }
             switch (clause) {
                 case WORD_PERSON: return town.settle(first, second) != NONE;
                 case WORD_GOAL: return town.aims(first, second);
                 case WORD_LEFT: return walks(first, false);
                 case WORD_RIGHT: return walks(first, true);
                 case WORD_SHOVEL: return shovels(second, first);
-                case WORD_HOUR: return waits(first);
                 default: return true;
             }
         }
@@ -1273,12 +1272,16 @@ public final class BoroughBeam {
             reached = 0;
             goal = NONE;
             come(town, town.standing(), START);
-            for (int head = 0; head < reached && !(toGoals && goal != NONE); head++) {
+            for (int head = 0; head < STANDINGS && head < reached && !(toGoals && goal != NONE); head++) {
                 expand(town, queue[head], pairs);
             }
         }
 
+        /** Each standing is come to once, so that the queue holds them all. */
         private void come(Town town, int standing, int by) {
+            if (reached >= STANDINGS) {
+                return;
+            }
             trace[standing] = by;
             queue[reached] = standing;
             reached++;

@@ -52,6 +52,7 @@ public final class PromiseTests {
         loneAndHeaviest();
         travelledAndLedger();
         imageAndBack();
+        imageOfLists();
         about();
         System.out.println(wrong == 0 ? asked + " answers are as due" : wrong + " of " + asked + " answers are not as due");
         if (wrong != 0) {
@@ -260,6 +261,10 @@ public final class PromiseTests {
         fault("x", 1, 0);
         fault("Tips 1;", 1, 0);
         fault("tipsA 1;", 1, 0);
+        fault("tips tipz;", 1, 5);
+        fault("tips tipZ;", 1, 5);
+        fault("tips tip1;", 1, 8);
+        fault("tips 1tip;", 1, 6);
         fault("tips", 1, 4);
         fault("tips  \n", 1, 7);
         fault("tips ;", 1, 5);
@@ -643,6 +648,10 @@ public final class PromiseTests {
         due(13, "hour(1)", b.hour(1), NONE);
         int x = b.is(1);
         due(21, "foretold(1, 0)", b.foretold(1, 0), b.of(0, 1));
+        b.by(read(b, "tips 0;"));
+        due(2, "person(9, 5)", b.person(9, 5), 1);
+        due(21, "foretold(5, 1), no hour can pass", b.foretold(5, 1), 5);
+        b.by(NONE);
         due(15, "years(3, 40)", b.years(3, 40), 9999);
         due(16, "undo()", b.undo(), 29);
         due(16, "is(1)", b.is(1), x);
@@ -1032,6 +1041,18 @@ public final class PromiseTests {
         b.hand(9, 99);
         paid(b, 70, 3, 0, 0);
         due(25, "is(2), nothing is done", b.is(2), 72);
+        // 0 and 1 level 17 (4 at 0, 1 at 3); 0 and 2 would be cheaper, but cannot.
+        b = with(4, 8, 1, 5);
+        b.hand(4, 1);
+        b.hand(1, 5);
+        b.hand(2, 3);
+        paid(b, 6, 3, 0, 3, NONE);
+        // The least wage goes before the fewest.
+        b = with(2, 7);
+        b.hand(4, 1);
+        b.hand(1, 1);
+        b.hand(3, 50);
+        paid(b, 2, 3, 2, 6, NONE);
         b = with(9, 8, 9, 8, 9, 8, 9, 8);
         b.hand(9, 1);
         b.hand(9, 1);
@@ -1441,6 +1462,44 @@ public final class PromiseTests {
         due(45, "about(4)", b.about(4), 0);
         due(45, "about(2)", b.about(2), 2);
         due(45, "is(3)", b.is(3), 7);
+    }
+
+    private static void imageOfLists() {
+        BoroughBeam b = with(1, 0, 1, 0, 9, 8);
+        b.hour(2);
+        read(b, "slides who;");
+        b.said(1, 1);
+        b.image();
+        b.undo();
+        b.walk(0, false);
+        b.by(read(b, "slides 0 - 1 + 3 * sign tip;"));
+        b.hour(20);
+        b.said(NONE, 0);
+        b.said(0, 1);
+        due(45, "whose()", b.whose(), 0);
+        b.back();
+        due(45, "whose(), what was said", b.whose(), 1);
+        int[][] want = {{0, 0, 0, 1}, {0, 1, 0, 1}, {1, 0, 1, 2}, {1, 1, 1, 2}};
+        due(45, "book(NONE, 0)", b.book(NONE, 0), 4);
+        for (int i = 0; i < 4; i++) {
+            for (int k = 0; k < 4; k++) {
+                due(45, "book(" + i + ", " + k + ")", b.book(i, k), want[i][k]);
+            }
+        }
+        // More than 30 written since: the eldest come back.
+        b = with(1, 0, 1, 0, 1, 0, 9, 8);
+        b.hour(8);
+        b.image();
+        b.by(read(b, "tips 99;"));
+        for (int i = 0; i < 24; i++) {
+            b.walk(i % 3, false);
+        }
+        b.by(NONE);
+        b.hour(8);
+        due(45, "book(0, 0)", b.book(0, 0), 6);
+        b.back();
+        due(45, "book(0, 0)", b.book(0, 0), 0);
+        due(45, "book(23, 0)", b.book(23, 0), 7);
     }
 
     private static void about() {
