@@ -285,6 +285,15 @@ public final class AskBoundaryTests {
             due("where(false)", b.where(false), 6561);
             due("where(true)", b.where(true), 6561);
         });
+        test(24, "of fewer people than there were", b -> {
+            Cases.people(b, 1, 4);
+            b.image();
+            Cases.people(b, 1, 4, 1, 4, 1, 4);
+            due("where(true) of four is more", b.where(true) > 9, true);
+            b.back();
+            due("where(true)", b.where(true), 9);
+            due("where(false)", b.where(false), 9);
+        });
         test(24, "nothing is done by it", b -> {
             Cases.people(b, 1, 0, 1, 8);
             b.where(true);
@@ -389,6 +398,14 @@ public final class AskBoundaryTests {
             b.hand(1, 3);
             b.hand(1, 3);
             paid(b, 3, 1, 3, NONE);
+        });
+        test(26, "a cheaper set that can't level it doesn't move those who can", b -> {
+            // 17 to the right: 4 in place 0 and 1 in place 3; 4 and 2 would be cheaper.
+            Cases.people(b, 4, 8, 1, 5);
+            b.hand(4, 1);
+            b.hand(1, 5);
+            b.hand(2, 3);
+            paid(b, 6, 3, 0, 3, NONE);
         });
         test(26, "the lowest place of the lowest hand", b -> {
             Cases.people(b, 1, 8, 1, 8);
@@ -561,6 +578,15 @@ public final class AskBoundaryTests {
             // 5, 5, 18, -18. Behind 0 or 1 the other of them goes, and then nobody can; behind 2 nobody can.
             Cases.people(b, 5, 5, 5, 5, 9, 6, 9, 2);
             quarrel(b, 1, 2);
+        });
+        test(28, "won, and lost by another law", b -> {
+            b.hour(1);
+            Cases.people(b, 3, 3);
+            quarrel(b, 1, 0);
+            Cases.rule(b, "tips 2;");
+            quarrel(b, 0, NONE);
+            b.by(NONE);
+            quarrel(b, 1, 0);
         });
         test(28, "nobody goes by it", b -> {
             Cases.people(b, 1, 4);
@@ -931,6 +957,13 @@ public final class AskBoundaryTests {
             due("send(1)", b.send(1), 8);
             due("send(9)", b.send(9), 8);
         });
+        test(36, "12 to the right: as far to the left as each weight should be", b -> {
+            Cases.people(b, 3, 8);
+            int[] want = {0, 0, 0, 1, 2, 2};
+            for (int weight = 1; weight <= 6; weight++) {
+                due("send(" + weight + ")", b.send(weight), want[weight - 1]);
+            }
+        });
         test(36, "of like ones the lowest: 4 by 8", b -> {
             Cases.people(b, 4, 5);
             due("send(8)", b.send(8), 3);
@@ -1213,6 +1246,11 @@ public final class AskBoundaryTests {
             due("ledger(2)", b.ledger(2), 2);
             due("travelled()", b.travelled(), 2);
         });
+        test(42, "person 0 more often than others", b -> {
+            Cases.people(b, 1, 4, 1, 7, 9, 8);
+            b.hour(2);
+            due("travelled()", b.travelled(), 0);
+        });
         test(42, "taken back: none", b -> {
             Cases.people(b, 9, 8, 1, 4);
             b.hour(1);
@@ -1315,8 +1353,8 @@ public final class AskBoundaryTests {
             due("about(4)", b.about(4), 30);
             for (int i = 29; i >= 0; i--) {
                 due("undo()", b.undo(), i);
+                due("is(0)", b.is(0), i);
             }
-            due("is(0)", b.is(0), 0);
             due("undo()", b.undo(), NONE);
         });
         test(45, "steps taken back since come back", b -> {
@@ -1345,6 +1383,46 @@ public final class AskBoundaryTests {
             b.back();
             due("about(3)", b.about(3), 0);
             due("is(3)", b.is(3), 1);
+        });
+        test(45, "what was said is as it was, not what is said since", b -> {
+            Cases.people(b, 1, 4, 1, 4);
+            Cases.read(b, "slides who + 1;");
+            b.said(0, 1);
+            b.said(1, 2);
+            b.image();
+            b.said(NONE, 0);
+            b.said(1, 1);
+            b.said(0, 3);
+            due("whose()", b.whose(), 0);
+            b.back();
+            due("whose()", b.whose(), 1);
+        });
+        test(45, "the book is as it was", b -> {
+            Cases.people(b, 9, 6);
+            b.hour(1);
+            b.image();
+            b.hour(5);
+            b.undo();
+            b.back();
+            due("book(NONE, 0)", b.book(NONE, 0), 1);
+            due("book(0, 0)", b.book(0, 0), 0);
+            due("book(0, 3)", b.book(0, 3), 7);
+        });
+        test(45, "a book from which some were pushed out is as it was", b -> {
+            Cases.people(b, 1, 0, 1, 0, 1, 0, 9, 8);
+            b.hour(8);
+            b.image();
+            Cases.rule(b, "tips 99;");
+            for (int i = 0; i < 12; i++) {
+                b.walk(i % 3, false);
+            }
+            b.by(NONE);
+            b.hour(3);
+            due("book(0, 0)", b.book(0, 0), 1);
+            b.back();
+            due("book(NONE, 0)", b.book(NONE, 0), 24);
+            due("book(0, 0)", b.book(0, 0), 0);
+            due("book(23, 0)", b.book(23, 0), 7);
         });
         test(45, "hands, people and what was said, at their most", b -> {
             Cases.people(b, 1, 4, 1, 4, 1, 4, 1, 4);

@@ -1059,6 +1059,13 @@ public final class BeamBoundaryTests {
             due("of(1, 1)", b.of(1, 1), 3);
             due("of(0, 1)", b.of(0, 1), 5);
         });
+        test(15, "a pair of four", b -> {
+            Cases.people(b, 2, 4, 2, 4, 2, 4, 2, 4);
+            b.years(13, 1); // 375: 3 by 6, 3 by 4; 62: 2 by 4
+            due("of(3, 1)", b.of(3, 1), 3);
+            due("of(2, 1)", b.of(2, 1), 5);
+            due("place(4, 1)", b.place(4, 1), 3);
+        });
         test(15, "a pair of which one can't go: neither goes", b -> {
             Cases.people(b, 1, 8, 1, 4);
             b.years(1, 1);
@@ -1453,7 +1460,7 @@ public final class BeamBoundaryTests {
         });
     }
 
-    /** Three go from 0 to 8 in eight hours, then from 1 to 7 in two more: 30 entries. */
+    /** Three go from 0 to 8 in eight hours, then from 5 to 7 in two more: 30 entries. */
     private static void thirtyWritten(BoroughBeam b) {
         Cases.people(b, 1, 0, 1, 0, 1, 0, 9, 8);
         b.hour(8);
@@ -1495,7 +1502,11 @@ public final class BeamBoundaryTests {
             b.undo();
             due("book(NONE, 0)", b.book(NONE, 0), 30);
             due("book(0, 0)", b.book(0, 0), 0);
+            due("book(0, 2)", b.book(0, 2), 0);
+            due("book(0, 3)", b.book(0, 3), 1);
             due("book(29, 0)", b.book(29, 0), 9);
+            due("book(29, 2)", b.book(29, 2), 6);
+            due("book(29, 3)", b.book(29, 3), 7);
         });
         test(43, "of a full book each is counted among 30", b -> {
             thirtyWritten(b);

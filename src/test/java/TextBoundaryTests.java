@@ -224,6 +224,32 @@ public final class TextBoundaryTests {
             due("fault(0)", b.fault(0), 1);
             due("fault(1)", b.fault(1), 299);
         });
+        test(7, "300 tokens of one byte each, at fault at once", b -> {
+            due("text()", Cases.read(b, ";".repeat(300)), NONE);
+            due("fault(0)", b.fault(0), 1);
+            due("fault(1)", b.fault(1), 0);
+        });
+        test(7, "300 tokens of words and numbers by turns", b -> {
+            due("text()", Cases.read(b, "a1".repeat(150)), NONE);
+            due("fault(1)", b.fault(1), 0);
+        });
+        test(7, "as many tokens as a text without a fault can have", b -> {
+            due("text()", Cases.read(b, "tips6" + "-1+1".repeat(73) + "+0;"), 0);
+            b.by(0);
+            due("is(3)", b.is(3), 6);
+        });
+        test(7, "long laws behind long laws", b -> {
+            Cases.people(b, 1, 4);
+            for (int i = 0; i < 4; i++) {
+                due("text()", Cases.read(b, "tips " + (40 + i) + "-1+1".repeat(34) + ";slides " + i + "+1-1".repeat(34) + ";"), i);
+                due("text()", i < 3 ? Cases.read(b, "tips 7" + "+1".repeat(146)) : NONE, NONE);
+            }
+            for (int i = 0; i < 4; i++) {
+                b.by(i);
+                due("is(3)", b.is(3), 40 + i);
+                due("of(0, 3)", b.of(0, 3), i);
+            }
+        });
         test(7, "a law of 299 bytes", b -> {
             due("text()", Cases.read(b, "tips 0" + "+1".repeat(146) + ";"), 0);
             b.by(0);
@@ -762,6 +788,11 @@ public final class TextBoundaryTests {
         tips("and ahead of or", "if 1=1 or 1=1 and 1=2 then 1 else 2 end", 1);
         tips("and ahead of or, at the first", "if 1=2 and 1=1 or 1=1 then 1 else 2 end", 1);
         tips("not of one ASK alone", "if not 1=2 and 1=2 then 1 else 2 end", 2);
+        tips("not of one that holds", "if not 1=1 then 1 else 2 end", 2);
+        tips("not of one that doesn't", "if not 1=2 then 1 else 2 end", 1);
+        tips("not of the first of two", "if not 1=1 or 1=1 then 1 else 2 end", 1);
+        tips("not of the last of two", "if 1=1 and not 1=1 then 1 else 2 end", 2);
+        tips("not seven times", "if not not not not not not not 1=1 then 1 else 2 end", 2);
         tips("not not", "if not not 1=1 then 1 else 2 end", 1);
         tips("an if in an if", "if 1=2 then 1 else if 1=1 then 2 else 3 end end", 2);
         tips("an if in a question", "if if 1=1 then 4 else 5 end=4 then 1 else 2 end", 1);
