@@ -8,8 +8,10 @@ import java.util.ArrayList;
 import java.util.Arrays;
 import java.util.HashSet;
 import java.util.List;
+import java.util.Map;
 import java.util.Random;
 import java.util.Set;
+import java.util.TreeMap;
 import java.util.TreeSet;
 import java.util.regex.Matcher;
 import java.util.regex.Pattern;
@@ -30,6 +32,7 @@ public final class RuleTests {
         face();
         classes();
         source();
+        depth();
         neverThrows();
         allocates();
         System.out.println(wrong == 0 ? "all rules are kept" : wrong + " rules are not kept");
@@ -96,9 +99,13 @@ public final class RuleTests {
         }
     }
 
+    private static String bare(String text) {
+        return text.replaceAll("(?s)/\\*.*?\\*/", "").replaceAll("//[^\n]*", "").replaceAll("\"[^\"\n]*\"", "\"\"");
+    }
+
     private static void source() throws Exception {
         String text = Files.readString(Path.of("src/main/java/BoroughBeam.java"));
-        String code = text.replaceAll("(?s)/\\*.*?\\*/", "").replaceAll("//[^\n]*", "").replaceAll("\"[^\"\n]*\"", "\"\"");
+        String code = bare(text);
         for (String word : new String[] {"throw", "throws", "try", "catch", "synchronized", "assert", "package", "double",
             "float", "record", "new Object", "hashCode", "toString", "protected", "volatile", "native", "Thread", "var"}) {
             rule(!Pattern.compile("\\b" + word + "\\b").matcher(code).find(), "no " + word);
@@ -124,6 +131,66 @@ public final class RuleTests {
                 rule(i - start < 60 || start == 0 || lines[i].equals("    }"), "the method at line " + (start + 1) + " is short");
             }
         }
+    }
+
+    /** Methods of the same name are taken as one, which can only make the chains of calls longer. */
+    private static void depth() throws Exception {
+        String code = bare(Files.readString(Path.of("src/main/java/BoroughBeam.java")));
+        Map<String, Set<String>> calls = new TreeMap<>();
+        Matcher heads = Pattern.compile("\n( {4}| {8})(?:(?:public|private|static|final) )*[\\w\\[\\]]+ (\\w+)\\([^()]*\\) \\{\n").matcher(code);
+        while (heads.find()) {
+            String body = code.substring(heads.end(), code.indexOf("\n" + heads.group(1) + "}\n", heads.end() - 1));
+            Matcher called = Pattern.compile("(?<!new )\\b(\\w+)\\(").matcher(body);
+            Set<String> names = calls.computeIfAbsent(heads.group(2), name -> new TreeSet<>());
+            while (called.find()) {
+                names.add(called.group(1));
+            }
+        }
+        rule(calls.size() > 100, "methods are found in the source: " + calls.size());
+        Map<String, Set<String>> reached = new TreeMap<>();
+        for (String name : calls.keySet()) {
+            calls.get(name).retainAll(calls.keySet());
+        }
+        for (String name : calls.keySet()) {
+            reached.put(name, reach(calls, name));
+        }
+        for (Method m : BoroughBeam.class.getDeclaredMethods()) {
+            if (Modifier.isPublic(m.getModifiers())) {
+                int deep = deepest(calls, reached, m.getName());
+                rule(deep <= 8, m.getName() + " goes " + deep + " calls deep, recursion aside");
+            }
+        }
+    }
+
+    private static Set<String> reach(Map<String, Set<String>> calls, String from) {
+        Set<String> seen = new TreeSet<>();
+        List<String> next = new ArrayList<>(calls.get(from));
+        while (!next.isEmpty()) {
+            String name = next.remove(next.size() - 1);
+            if (seen.add(name)) {
+                next.addAll(calls.get(name));
+            }
+        }
+        return seen;
+    }
+
+    /** Methods that call one another by recursion count as one. */
+    private static int deepest(Map<String, Set<String>> calls, Map<String, Set<String>> reached, String from) {
+        Set<String> group = new TreeSet<>(Set.of(from));
+        for (String name : reached.get(from)) {
+            if (reached.get(name).contains(from)) {
+                group.add(name);
+            }
+        }
+        int below = 0;
+        for (String member : group) {
+            for (String name : calls.get(member)) {
+                if (!group.contains(name)) {
+                    below = Math.max(below, deepest(calls, reached, name));
+                }
+            }
+        }
+        return below + 1;
     }
 
     /** Every method with every mixture of numbers from within and from far outside, in any state. */
