@@ -588,6 +588,13 @@ public final class AskBoundaryTests {
             b.by(NONE);
             quarrel(b, 1, 0);
         });
+        test(28, "lost, and won by another law", b -> {
+            b.hour(1); // 3 by snow, -3 by person 1
+            Cases.people(b, 1, 4, 3, 3);
+            quarrel(b, 0, NONE);
+            Cases.rule(b, "tips 2;");
+            quarrel(b, 1, 0);
+        });
         test(28, "nobody goes by it", b -> {
             Cases.people(b, 1, 4);
             b.quarrel(true);
