@@ -128,19 +128,20 @@ public final class BoroughBeam {
     private final Borough now;
     private final Borough kept;
     private final Town trial;
-    private final Tape tape;
     private final Reader reader;
-    private final Search search;
+    private final Tape tape;
     private final Crowd crowd;
+    /** Null until goings are first asked for: its rows are most of what an object holds. */
+    private Search search;
 
     public BoroughBeam() {
         now = new Borough();
         kept = new Borough();
         trial = new Town();
-        tape = new Tape();
-        reader = new Reader(tape);
-        search = new Search();
+        reader = new Reader();
+        tape = reader.tape;
         crowd = new Crowd();
+        search = null;
     }
 
     public int person(int weight, int place) {
@@ -327,15 +328,12 @@ public final class BoroughBeam {
         if (i < NONE) {
             return NO_ANSWER;
         }
-        trial.copyFrom(now.town);
-        search.explore(trial, pairs, true);
-        return i == NONE ? search.goingsToGoals() : search.goingToGoals(i);
+        Search found = explored(pairs, true);
+        return i == NONE ? found.goingsToGoals() : found.goingToGoals(i);
     }
 
     public int where(boolean pairs) {
-        trial.copyFrom(now.town);
-        search.explore(trial, pairs, false);
-        return search.reached;
+        return explored(pairs, false).reached;
     }
 
     public int paid(boolean wage) {
@@ -586,6 +584,15 @@ public final class BoroughBeam {
             case 6: return tape.length;
             default: return NO_ANSWER;
         }
+    }
+
+    private Search explored(boolean pairs, boolean toGoals) {
+        if (search == null) {
+            search = new Search();
+        }
+        trial.copyFrom(now.town);
+        search.explore(trial, pairs, toGoals);
+        return search;
     }
 
     private static boolean within(int value, int low, int high) {
@@ -1564,7 +1571,7 @@ public final class BoroughBeam {
 
     /** Reads the tape as a text. Each part answers whether it stands there, or else has told its fault. */
     private static final class Reader {
-        final Tape tape;
+        final Tape tape = new Tape();
         final int[] kinds = new int[MOST_CLAUSES];
         final int[] firsts = new int[MOST_CLAUSES];
         final int[] seconds = new int[MOST_CLAUSES];
@@ -1577,10 +1584,6 @@ public final class BoroughBeam {
         Law slides = null;
         int fault = NONE;
         int faultPlace = NONE;
-
-        Reader(Tape tape) {
-            this.tape = tape;
-        }
 
         /** The text, or null if it has a fault. */
         Text read() {

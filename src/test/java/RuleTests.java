@@ -228,7 +228,11 @@ public final class RuleTests {
         long before = threads.getThreadAllocatedBytes(me);
         BoroughBeam b = new BoroughBeam();
         long made = threads.getThreadAllocatedBytes(me) - before;
-        rule(made < 200000, "a new object takes " + made + " bytes");
+        rule(made < 40000, "a new object takes " + made + " bytes");
+        before = threads.getThreadAllocatedBytes(me);
+        b.where(true);
+        long first = threads.getThreadAllocatedBytes(me) - before;
+        rule(first < 80000, "the first search takes " + first + " bytes");
         for (int p = 0; p < 4; p++) {
             b.person(1, 4);
             b.hand(p + 1, p);
