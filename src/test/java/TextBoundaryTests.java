@@ -30,6 +30,8 @@ public final class TextBoundaryTests {
         sign();
         load();
         comparisons();
+        joinedComparisons();
+        deepestLaw();
         choices();
         nameValues();
         playedNumbers();
@@ -772,6 +774,35 @@ public final class TextBoundaryTests {
             }
         }
         tips("at 1000000", "if 9999*9999=1000*1000 then 1 else 2 end", 1);
+    }
+
+    /** Every two comparisons, each true and false, joined by or and by and, and denied. */
+    private static void joinedComparisons() {
+        String[] hold = {"1<2", "2<=2", "2>1", "2>=2", "2=2", "1#2"};
+        String[] fail = {"2<2", "3<=2", "2>2", "1>=2", "1=2", "2#2"};
+        for (int one = 0; one < hold.length; one++) {
+            for (int other = 0; other < hold.length; other++) {
+                joined(hold[one], hold[other], true, true);
+                joined(hold[one], fail[other], true, false);
+                joined(fail[one], hold[other], false, true);
+                joined(fail[one], fail[other], false, false);
+            }
+        }
+    }
+
+    private static void joined(String one, String other, boolean first, boolean last) {
+        tips("either", "if " + one + " or " + other + " then 1 else 2 end", first || last ? 1 : 2);
+        tips("both", "if " + one + " and " + other + " then 1 else 2 end", first && last ? 1 : 2);
+        tips("either, the first denied", "if not " + one + " or " + other + " then 1 else 2 end", !first || last ? 1 : 2);
+        tips("both, the last denied", "if " + one + " and not " + other + " then 1 else 2 end", first && !last ? 1 : 2);
+    }
+
+    /** Eight of if are open, in each of which or, and, a question, a sum and a product wait for what is inside. */
+    private static void deepestLaw() {
+        String ahead = "5+2*" + "if0>1or1>0and0<1-1*".repeat(8);
+        String behind = " then1else0end".repeat(8);
+        tips("the innermost 0 turns eight times", ahead + "0" + behind, 5);
+        tips("the innermost 1 turns eight times", ahead + "1" + behind, 7);
     }
 
     private static void choices() {
